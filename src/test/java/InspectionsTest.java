@@ -220,6 +220,16 @@ public final class InspectionsTest {
         CHECK.due("P51: 120 minutes on", x.bestInspection(0, 120), 120);
     }
 
+    private static void promise51WithoutWaiting() {
+        ParkingEnforcement x = chargedTown();
+        x.park(0, 0);
+        x.advance(200);
+        CHECK.due("P51: long overdue", x.bestInspection(0, 120), 0);
+        x.inspect(0);
+        CHECK.due("P51: not before", x.bestInspection(0, 119), 0);
+        CHECK.due("P51: just then", x.bestInspection(0, 120), 120);
+    }
+
     private static void behindTheEnd() {
         ParkingEnforcement x = CHECK.town("places 1;rate 0 0 1 60");
         for (int day = 0; day < 6; day++) {
@@ -242,6 +252,7 @@ public final class InspectionsTest {
         promise37();
         promise50();
         promise51();
+        promise51WithoutWaiting();
         behindTheEnd();
         CHECK.end();
     }

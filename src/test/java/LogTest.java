@@ -112,6 +112,18 @@ public final class LogTest {
         CHECK.due("P52: day 6", x.revenue(2, 6), 0);
     }
 
+    private static void promise52LastZoneAndDay() {
+        ParkingEnforcement x = CHECK.town("places 1;zone 0 3;rate 3 0 24 60");
+        for (int day = 0; day < 6; day++) {
+            x.advance(1440);
+        }
+        x.park(0, 0);
+        x.pay(0, 25);
+        CHECK.due("P52: zone 3 on day 6", x.revenue(3, 6), 25);
+        CHECK.due("P44: day 6", x.daySum(6, 2), 25);
+        CHECK.due("P54: day 6", x.busiestPlace(6), 0);
+    }
+
     private static void promise54() {
         ParkingEnforcement x = CHECK.town("places 4");
         CHECK.due("P54: day -1", x.busiestPlace(-1), -1);
@@ -225,6 +237,7 @@ public final class LogTest {
         promise44();
         aTowBelongsToTheDayOfItsEnd();
         promise52();
+        promise52LastZoneAndDay();
         promise54();
         aCallThatWasBegunBefore();
         limit();

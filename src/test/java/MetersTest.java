@@ -188,6 +188,14 @@ public final class MetersTest {
         CHECK.due("P47: the first start is now", x.cheapestStart(1, 30), 301);
         x.advance(30);
         CHECK.due("P47: a day on", x.cheapestStart(1, 60), 1740);
+        ParkingEnforcement z = CHECK.town("places 1;rate 0 3 4 600");
+        z.advance(240);
+        CHECK.due("P47: just behind a dear hour", z.cheapestStart(0, 60), 240);
+        z.advance(1380);
+        CHECK.due("P47: just before a dear hour", z.cheapestStart(0, 60), 1680);
+        ParkingEnforcement w = CHECK.town("places 1;rate 0 0 24 60;rate 0 5 6 600");
+        w.advance(241);
+        CHECK.due("P47: one dear minute at the end", w.cheapestStart(0, 60), 360);
         ParkingEnforcement y = CHECK.town("places 1;rate 0 0 24 60;rate 0 23 24 59");
         CHECK.due("P47: the last start that is considered", y.cheapestStart(0, 60), 1380);
         for (int day = 0; day < 6; day++) {

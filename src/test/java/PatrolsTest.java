@@ -72,6 +72,18 @@ public final class PatrolsTest {
         CHECK.due("P59: nothing is written", x.ticketCount(2), 0);
     }
 
+    private static void eachQuestionPlansAnew() {
+        ParkingEnforcement x = parked("places 2;rate 0 0 24 60;road 0 1 30", 0, 1);
+        CHECK.due("P60: nothing yet", x.patrolSet(0, 600), 0);
+        x.advance(25);
+        CHECK.due("P61: asked first", x.patrolMinutes(0, 600), 40);
+        CHECK.due("P60: fewer minutes", x.patrolSet(0, 39), 1);
+        CHECK.due("P59: other start", x.patrolValue(1, 40), 3000);
+        x.leave(0);
+        CHECK.due("P61: one left", x.patrolMinutes(0, 600), 35);
+        CHECK.due("P60: from the other place", x.patrolSet(1, 5), 2);
+    }
+
     private static void tenPlaces() {
         StringBuilder town = new StringBuilder("places 10;rate 0 0 24 60");
         for (int place = 1; place < 10; place++) {
@@ -91,6 +103,7 @@ public final class PatrolsTest {
         places();
         equalOnes();
         valuesAreOfNow();
+        eachQuestionPlansAnew();
         tenPlaces();
         CHECK.end();
     }

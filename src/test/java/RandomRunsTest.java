@@ -324,9 +324,20 @@ public final class RandomRunsTest {
         }
     }
 
+    private void loadAnother() {
+        call("saveSnapshot", below(2));
+        load("places " + (1 + below(3)) + ";rate 0 0 24 60;pound 0 2");
+        for (int i = 0; i < 20; i++) {
+            act();
+        }
+        call("restoreSnapshot", below(2));
+    }
+
     private void playOn(int asked) {
         while (goesOn()) {
-            if (chance(asked)) {
+            if (chance(1)) {
+                loadAnother();
+            } else if (chance(asked)) {
                 ask(QUERIES[below(QUERIES.length)]);
             } else {
                 act();
@@ -402,8 +413,17 @@ public final class RandomRunsTest {
         playOn(50);
     }
 
+    private String wideTown() {
+        int places = 7 + below(4);
+        StringBuilder text = new StringBuilder("places " + places + ";rate 0 0 24 60");
+        for (int p = 1; p < places; p++) {
+            text.append(";road ").append(below(p)).append(' ').append(p).append(' ').append(1 + below(20));
+        }
+        return text.toString();
+    }
+
     private void runOfPatrols() {
-        load(crowdedTown());
+        load(chance(70) ? crowdedTown() : wideTown());
         for (int i = 0; i < 12; i++) {
             call("park", carIn(0), place());
             call("advance", pick(1, 20, 40, 100));

@@ -109,6 +109,10 @@ public final class SnapshotsTest {
         Check.append(x, "places 2;pound 1 5");
         x.load();
         x.advance(77);
+        for (int car = 12; car >= 9; car--) {
+            x.park(car, 1);
+            x.leave(car);
+        }
         CHECK.due("P13: the other slot", x.saveSnapshot(0), 77);
         x.appendByte('p');
         x.appendByte('l');
@@ -119,6 +123,34 @@ public final class SnapshotsTest {
         CHECK.due("P14: the other town", x.placeCount(), 2);
         CHECK.due("P14: the other truck", x.truck(), 1);
         CHECK.due("P14: the other cars", x.state(0), 0);
+    }
+
+    private static void clampsAndPoundsAreInIt() {
+        ParkingEnforcement x = CHECK.town("places 1;rate 0 0 24 60;pound 0 1");
+        x.park(0, 0);
+        for (int round = 0; round < 3; round++) {
+            x.advance(120);
+            x.inspect(0);
+        }
+        x.saveSnapshot(0);
+        x.advance(180);
+        x.towNext();
+        x.saveSnapshot(1);
+        Check.append(x, "places 2;road 0 1 5");
+        x.load();
+        x.restoreSnapshot(0);
+        CHECK.due("P14: clamped", x.state(0), 2);
+        CHECK.due("P14: clamped since", x.clampedSince(0), 360);
+        CHECK.due("P14: the pound is empty", x.poundFree(0), 1);
+        x.advance(179);
+        CHECK.due("P14: not to be towed yet", x.towable(), 0);
+        x.advance(1);
+        CHECK.due("P14: to be towed", x.towable(), 1);
+        x.restoreSnapshot(1);
+        CHECK.due("P14: in the pound", x.state(0), 3);
+        CHECK.due("P14: the pound is full", x.poundFree(0), 0);
+        CHECK.due("P14: fees", x.fees(0), 23000);
+        CHECK.due("P14: the entry of the tow", x.logMinute(x.logCount() - 1), 550);
     }
 
     private static void replaced() {
@@ -148,12 +180,21 @@ public final class SnapshotsTest {
         x.load();
         x.restoreSnapshot(0);
         CHECK.due("P14: a ticket just now", x.inspect(0), 0);
+        x.advance(390);
+        x.inspect(0);
+        x.saveSnapshot(0);
+        x.load();
+        Check.append(x, "places 1");
+        x.load();
+        x.restoreSnapshot(0);
+        CHECK.due("P14: a later ticket just now", x.inspect(0), 0);
     }
 
     public static void main(String[] args) {
         errors();
         saveAndRestore();
         behindALoad();
+        clampsAndPoundsAreInIt();
         replaced();
         theGapBetweenTicketsIsInIt();
         CHECK.end();

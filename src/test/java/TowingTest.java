@@ -168,6 +168,28 @@ public final class TowingTest {
         tour("six of seven, room for five", x, 4 * 10 + 12, new int[][] {{1, 1}, {12, 1}, {13, 1}, {14, 1}, {15, 1}});
     }
 
+    private static void sixOfEightInOneMinute() {
+        ParkingEnforcement x = clamped("places 2;road 0 1 1;pound 0 6;pound 1 6;spaces 0 7",
+                new int[][] {{1, 0}, {3, 0}, {5, 0}, {7, 0}, {9, 0}, {11, 0}, {13, 0}, {15, 1}});
+        x.advance(180);
+        tour("the six smaller ones", x, 60, new int[][] {{1, 0}, {3, 0}, {5, 0}, {7, 0}, {9, 0}, {11, 0}});
+    }
+
+    private static void eachQuestionPlansAnew() {
+        ParkingEnforcement x = clamped("places 2;road 0 1 8;pound 1 3", new int[][] {{2, 0}, {3, 1}});
+        x.advance(180);
+        x.saveSnapshot(0);
+        CHECK.due("P56: asked first", x.tourMinutes(), 26 + 10);
+        x.payFines(2, 99999);
+        CHECK.due("P57: asked first", x.tourCar(0), 3);
+        x.restoreSnapshot(0);
+        CHECK.due("P58: asked first", x.tourPound(1), 1);
+        x.payFines(3, 99999);
+        CHECK.due("P56: asked again", x.tourMinutes(), 26);
+        CHECK.due("P57: asked again", x.tourCar(0), 2);
+        CHECK.fails("P58: asked again", IndexOutOfBoundsException.class, () -> x.tourPound(1));
+    }
+
     private static void theTruckStaysWhereItTowed() {
         ParkingEnforcement x = clamped("places 4;road 0 1 10;road 1 2 10;road 2 3 1;pound 0 1;pound 3 2",
                 new int[][] {{0, 2}, {1, 1}});
@@ -213,6 +235,8 @@ public final class TowingTest {
         smallestOfEqual();
         carBeforePound();
         theFirstSixThatWereClamped();
+        sixOfEightInOneMinute();
+        eachQuestionPlansAnew();
         theTruckStaysWhereItTowed();
         timeAtItsEnd();
         CHECK.end();

@@ -72,6 +72,7 @@ public final class TownTest {
         read("places 2;road 0 1 1", 2, 0);
         read("places2;road0 1 99", 2, 0);
         read("places 2 ; road 1 0 5 ;zone 1 3 ; stay 3 600", 2, 0);
+        read("places 2;zone 0 0;zone 1 0;zone 1 3", 2, 0);
         read("places 2;rate 1 0 1 0;rate 3 23 24 999", 2, 0);
         read("places 2;stay 0 10;spaces 0 0;spaces 1 8", 2, 0);
         read("places 2;pound 0 1;pound 1 6;pound 0 2;pound 1 1", 2, 0);
@@ -83,6 +84,12 @@ public final class TownTest {
         read("plac", -100, 1);
         read(" plac 3", -101, 1);
         read("Places 1", -100, 1);
+        read("blaces 1", -100, 1);
+        read("placet 1", -100, 1);
+        read("places 2;toad 0 1 5", -109, 1);
+        read("places 2;pouns 0 1", -109, 1);
+        read("places 2;roads 0 1 5", -109, 1);
+        read("places 2;roa 0 1 5", -109, 1);
         read("placeS 1", -100, 1);
         read("placesx 1", -100, 1);
         read("7", -100, 1);
@@ -177,6 +184,50 @@ public final class TownTest {
         x.park(3, 0);
         x.advance(10);
         CHECK.due("P3: a ticket that was written before does not count", x.inspect(0), 1);
+    }
+
+    private static void promise3AfterAnEarlierText() {
+        ParkingEnforcement x = new ParkingEnforcement();
+        Check.append(x, "places 10;zone 9 3;stay 0 60;rate 1 0 24 5;road 0 1 5;spaces 0 7");
+        CHECK.due("P3: a long text", x.load(), 10);
+        Check.append(x, "places 1");
+        CHECK.due("P3: the bytes behind the end do not count", x.load(), 1);
+        Check.append(x, "places ");
+        CHECK.due("P3: nor do they where a number must stand", x.load(), -107);
+        Check.append(x, "places 10");
+        CHECK.due("P3: ten places again", x.load(), 10);
+        CHECK.due("P19: the zone is not the old one", x.zone(9), 0);
+        CHECK.due("P21: the stay is not the old one", x.longestStay(0), 120);
+        CHECK.due("P20: the rate is not the old one", x.rate(1, 7), 0);
+        CHECK.due("P17: the road is not there", x.distance(0, 1), -3);
+        CHECK.due("P22: the spaces are not the old ones", x.freeSpaces(0), 2);
+        Check.append(x, "places 3;pound 0 1;pound 1 1;pound 2 1");
+        CHECK.due("P3: an error", x.load(), -135);
+        Check.append(x, "places 3;pound 2 1;pound 1 1");
+        CHECK.due("P3: the pounds before an error do not count", x.load(), 3);
+        CHECK.due("P25: nor is the truck there", x.truck(), 2);
+    }
+
+    private static void promise3ClearsTheCars() {
+        ParkingEnforcement x = CHECK.town("places 1;rate 0 0 24 60;pound 0 1");
+        x.park(3, 0);
+        for (int round = 0; round < 3; round++) {
+            x.advance(120);
+            x.inspect(0);
+        }
+        x.payFines(3, 3500);
+        Check.append(x, "places 1;rate 0 0 24 60;pound 0 1");
+        x.load();
+        CHECK.due("P3: no ticket is paid", x.isTicketPaid(3, 0), false);
+        CHECK.due("P3: no fees", x.fees(3), 0);
+        CHECK.due("P3: no credit", x.credit(3), 0);
+        CHECK.due("P3: nothing is due", x.due(3), 0);
+        CHECK.due("P3: nothing to pay", x.payFines(3, 1), -3);
+        x.park(3, 0);
+        x.advance(10);
+        x.inspect(0);
+        CHECK.due("P3: a new ticket is not paid", x.isTicketPaid(3, 0), false);
+        CHECK.due("P3: the new ticket is due", x.due(3), 1500);
     }
 
     private static void promise4() {
@@ -287,6 +338,8 @@ public final class TownTest {
         promise3OutOfRange();
         promise3NotAllowed();
         promise3State();
+        promise3AfterAnEarlierText();
+        promise3ClearsTheCars();
         promise4();
         promise12And20();
         promise12KeepsWhatWasPaid();

@@ -320,19 +320,19 @@ public final class ParkingEnforcement {
     }
 
     public int ticketAmount(int car, int index) throws NoSuchElementException {
-        int entry = world.log.ticketEntry(car, index);
-        if (!world.log.has(entry)) {
-            throw new NoSuchElementException("there is no such ticket");
-        }
-        return at(world.log.amounts, entry);
+        return ofTicket(world.log.amounts, car, index);
     }
 
     public int ticketMinute(int car, int index) throws NoSuchElementException {
+        return ofTicket(world.log.minutes, car, index);
+    }
+
+    private int ofTicket(int[] row, int car, int index) throws NoSuchElementException {
         int entry = world.log.ticketEntry(car, index);
         if (!world.log.has(entry)) {
             throw new NoSuchElementException("there is no such ticket");
         }
-        return at(world.log.minutes, entry);
+        return at(row, entry);
     }
 
     public boolean isTicketPaid(int car, int index) {
@@ -374,31 +374,26 @@ public final class ParkingEnforcement {
     }
 
     public int logMinute(int index) throws IndexOutOfBoundsException {
-        if (!world.log.has(index)) {
-            throw new IndexOutOfBoundsException("there is no such log entry");
-        }
-        return at(world.log.minutes, index);
+        return logged(world.log.minutes, index);
     }
 
     public int logKind(int index) throws IndexOutOfBoundsException {
-        if (!world.log.has(index)) {
-            throw new IndexOutOfBoundsException("there is no such log entry");
-        }
-        return at(world.log.kinds, index);
+        return logged(world.log.kinds, index);
     }
 
     public int logCar(int index) throws IndexOutOfBoundsException {
-        if (!world.log.has(index)) {
-            throw new IndexOutOfBoundsException("there is no such log entry");
-        }
-        return at(world.log.carNumbers, index);
+        return logged(world.log.carNumbers, index);
     }
 
     public int logAmount(int index) throws IndexOutOfBoundsException {
+        return logged(world.log.amounts, index);
+    }
+
+    private int logged(int[] row, int index) throws IndexOutOfBoundsException {
         if (!world.log.has(index)) {
             throw new IndexOutOfBoundsException("there is no such log entry");
         }
-        return at(world.log.amounts, index);
+        return at(row, index);
     }
 
     public int daySum(int day, int kind) {
@@ -490,18 +485,19 @@ public final class ParkingEnforcement {
 
     public int tourCar(int index) throws IndexOutOfBoundsException {
         tours.plan(world);
-        if (!within(index, 0, tours.trips - 1)) {
-            throw new IndexOutOfBoundsException("there is no such trip");
-        }
-        return at(tours.tripCar, index);
+        return ofTrip(tours.tripCar, index);
     }
 
     public int tourPound(int index) throws IndexOutOfBoundsException {
         tours.plan(world);
+        return ofTrip(tours.tripPound, index);
+    }
+
+    private int ofTrip(int[] row, int index) throws IndexOutOfBoundsException {
         if (!within(index, 0, tours.trips - 1)) {
             throw new IndexOutOfBoundsException("there is no such trip");
         }
-        return at(tours.tripPound, index);
+        return at(row, index);
     }
 
     public int patrolValue(int start, int minutes) {

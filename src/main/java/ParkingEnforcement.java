@@ -11,6 +11,7 @@ public final class ParkingEnforcement {
     private static final int CARS = 16;
     private static final int PLACES = 10;
     private static final int ZONES = 4;
+    private static final int POUNDS = 2;
     private static final int SLOTS = 2;
     private static final int HOURS = 24;
     private static final int HOUR = 60;
@@ -772,7 +773,6 @@ public final class ParkingEnforcement {
         private static final int MISPLACED = 1;
         private static final int OUT_OF_RANGE = 2;
         private static final int NOT_ALLOWED = 3;
-        private static final int POUNDS = 2;
         // Above every range, and far from overflow when it is multiplied by ten.
         private static final int HUGE = 1000000;
 
@@ -1438,7 +1438,6 @@ public final class ParkingEnforcement {
      */
     private static final class TourPlanner {
         private static final int MOST_TRIPS = 6;
-        private static final int POUNDS = 2;
         private static final int HOOKING = 10;
         // Worth more than any tour is long, so that the number of cars counts before the length.
         private static final int TRIP_WORTH = 100000;

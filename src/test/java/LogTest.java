@@ -165,13 +165,7 @@ public final class LogTest {
     }
 
     private static void fill(ParkingEnforcement x, int count) {
-        for (int i = 0; x.logCount() < count && i < 340; i++) {
-            if (x.state(14) == 0) {
-                x.park(14, 0);
-            } else {
-                x.leave(14);
-            }
-        }
+        FullTown.fill(x, count, 14, 0);
         CHECK.due("P39: filled", x.logCount(), count);
     }
 

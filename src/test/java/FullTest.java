@@ -170,6 +170,11 @@ public final class FullTest {
         CHECK.due("P2: the last byte", x.appendByte(' '), 600);
         CHECK.due("P2: a full buffer", x.appendByte(' '), -1);
         CHECK.due("P3: all 600 are read", x.load(), 5);
+        CHECK.due("P2: the first byte again", x.appendByte(' '), 1);
+        ParkingEnforcement y = new ParkingEnforcement();
+        Check.append(y, "places 5" + " ".repeat(591) + ";");
+        CHECK.due("P2: a full buffer that ends too early", y.appendByte('x'), -1);
+        CHECK.due("P3: the greatest position", y.load(), -700);
     }
 
     // "An object is used for at most 512 calls after it has been made": the last of them answers as the first

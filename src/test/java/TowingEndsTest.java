@@ -5,6 +5,11 @@ public final class TowingEndsTest {
     /** Cars 0, 1, .. parked at the places of the row, clamped in minute 360; the minute is 540. */
     private static ParkingEnforcement clamped(String town, int... places) {
         ParkingEnforcement x = CHECK.town(town + ";rate 0 0 24 60");
+        clampAll(x, places);
+        return x;
+    }
+
+    private static void clampAll(ParkingEnforcement x, int... places) {
         for (int car = 0; car < places.length; car++) {
             x.park(car, places[car]);
         }
@@ -15,7 +20,6 @@ public final class TowingEndsTest {
             }
         }
         x.advance(180);
-        return x;
     }
 
     private static void tour(String what, ParkingEnforcement x, int trips, int minutes) {
@@ -110,6 +114,27 @@ public final class TowingEndsTest {
         CHECK.due("P57: the near pound first", x.tourCar(0), 0);
         CHECK.due("P58: the near pound first", x.tourPound(0), 0);
         CHECK.due("P58: the far pound then", x.tourPound(1), 1);
+    }
+
+    private static void loadAndClamp(ParkingEnforcement x, String town, int... places) {
+        Check.append(x, town + ";rate 0 0 24 60");
+        x.load();
+        clampAll(x, places);
+    }
+
+    // Nothing of a greater tour that was asked before is in a smaller one.
+    private static void aSmallerTourBehindAGreaterOne() {
+        ParkingEnforcement x = clamped("places 8;road 0 1 1;road 1 2 1;road 2 3 1;road 3 4 1;road 4 5 1;road 5 6 1;"
+                + "road 6 7 1;pound 0 3;pound 7 3", 6, 5, 4, 3, 2, 1);
+        tour("the greater one", x, 6, 85);
+        loadAndClamp(x, "places 3;road 0 1 5;road 1 2 5;pound 0 1;pound 2 1", 1, 1);
+        tour("two cars to two pounds", x, 2, 40);
+        trips("two cars to two pounds", x, new int[][] {{0, 0}, {1, 2}});
+        loadAndClamp(x, "places 2;road 0 1 9;pound 1 1", 0, 0);
+        tour("one car to one pound", x, 1, 28);
+        trips("one car to one pound", x, new int[][] {{0, 1}});
+        loadAndClamp(x, "places 2;road 0 1 9", 0, 0);
+        tour("no pound", x, 0, 0);
     }
 
     // "or, if there are more than six, the six of them that were clamped first"
@@ -231,6 +256,7 @@ public final class TowingEndsTest {
         aFullPound();
         twoPounds();
         sixTripsToTwoPounds();
+        aSmallerTourBehindAGreaterOne();
         sixCandidates();
         sixCandidatesByMinute();
         withoutAWay();
